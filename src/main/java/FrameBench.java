@@ -1649,27 +1649,27 @@ public final class FrameBench {
                 level++;
                 inside++;
             }
-            if (machine.headForm(cells.term(cell), cells.scope(cell), row)) {
-                boolean bound = inside > within;
-                boolean open = behind && !bound && machine.row() != 0;
-                headAndObjects(open, level + 1, inside);
-                if (behind && (bound || open)) {
-                    page.put(')');
-                }
+            if (!machine.headForm(cells.term(cell), cells.scope(cell), row)) {
+                return;
+            }
+            boolean bound = inside > within;
+            boolean bracketed = behind && (bound || machine.row() != 0);
+            if (bracketed && !bound) {
+                page.put('(');
+            }
+            putHead(machine.head());
+            objects(machine.headType(), machine.headTypeScope(), machine.row(), level + 1, inside);
+            if (bracketed) {
+                page.put(')');
             }
         }
 
-        private void headAndObjects(boolean open, int depth, int within) {
-            if (open) {
-                page.put('(');
-            }
-            int head = machine.head();
+        private void putHead(int head) {
             if (head < 0) {
                 putVariable(cells.numberOf(-head));
             } else {
                 putName(head);
             }
-            objects(machine.headType(), machine.headTypeScope(), machine.row(), depth, within);
         }
 
         /** The objects of a row by the { } of a type or a KIND, each put in for those behind it. */
@@ -1699,9 +1699,7 @@ public final class FrameBench {
             for (int i = 0; i < xs; i++) {
                 page.put('x');
             }
-            if (number >= 100) {
-                page.put('0' + number / 100 % 10);
-            }
+            // Two digits do: who stands within 100 others would be DEEP.
             if (number >= 10) {
                 page.put('0' + number / 10 % 10);
             }
