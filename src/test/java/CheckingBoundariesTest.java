@@ -6,6 +6,7 @@ public final class CheckingBoundariesTest extends Sentences {
         aheadOfWhatItIs();
         whatIsWrongHasTakenItsStep();
         fromTheLeft();
+        theFirstThatIsWrong();
         placeOfAToken();
         theEndIsAToken();
         noneOrCannotStandThere();
@@ -120,6 +121,19 @@ public final class CheckingBoundariesTest extends Sentences {
         canonFault(INDEXED, "p s two", at(7, 2));
         due("the first of two OBJECTS", with(NAT).equal("one ; two"), -1 - at(2, 0));
         due("the other of two OBJECTS", with(NAT).equal("z ; two"), -1 - at(2, 4));
+    }
+
+    private static void theFirstThatIsWrong() {
+        says("The first that is wrong is told:");
+        canonFault(INDEXED, "p s what", at(7, 2));
+        canonFault(INDEXED, "p what s", at(2, 2));
+        canonFault(INDEXED, "p ( z z ) what", at(8, 6));
+        canonFault(INDEXED, "p nat what", at(6, 2));
+        canonFault(INDEXED, "[ x : v ] what", at(4, 6));
+        canonFault(INDEXED, "p z ( s s ) what", at(7, 8));
+        declares(INDEXED, "a : v z z = what .", at(4, 8));
+        declares(INDEXED, "a : v > what .", at(4, 4));
+        declares(INDEXED, "a : v z . b : v s . c : what .", at(7, 16));
     }
 
     private static void placeOfAToken() {

@@ -27,8 +27,10 @@ public final class EqualBoundariesTest extends Sentences {
         deepAheadOfItsStep();
         canonicalFormByItsType();
         aStepForEachFamily();
+        elseThatOfTheHeadForm();
         withWhatIsAheadPutIn();
         familyAheadOfWhatStandsBehind();
+        constantsByNames();
         howManyTheyStandWithin();
         moreXsAhead();
         theFewestForAllAlike();
@@ -377,6 +379,20 @@ public final class EqualBoundariesTest extends Sentences {
         canons(with(LOADED), "[ x : v k4 ] x", "[x0:v z]x0");
     }
 
+    private static void elseThatOfTheHeadForm() {
+        says("else that of the HEAD FORM: its head, and those of the objects behind it, in order,");
+        canons(with(LOADED), "p ( id z ) ( id ( s k1 ) )", "p z (s z)");
+        canons(with(LOADED), "[ f : nat > nat > nat ] f k2 ( id k1 )", "[x0:{x0:nat}{x1:nat}nat]x0 z z");
+        // p, P, k1, EQUAL, P, k2, EQUAL; p, k1 and its 1, k2 and its 2.
+        canonSteps(LOADED, "p k1 k2", 7 + 1 + 2 + 3);
+        // In order: what would be SPENT stands behind what is DEEP, and ahead of it.
+        String spent = "c256 ( c256 id ) z";
+        String first = "p ( n99 z ) ( " + spent + " )";
+        due("DEEP ahead of SPENT", with(DEEP).canon(first), at(10, first.length()));
+        String other = "p ( " + spent + " ) ( n99 z )";
+        due("SPENT ahead of DEEP", with(DEEP).canon(other), at(9, other.length()));
+    }
+
     private static void withWhatIsAheadPutIn() {
         says("by the types that the head's type wants, with what is ahead put in.");
         String text = INDEXED + "g : { n : nat } ( v n > v n ) > nat . w : { n : nat } ( v n > nat ) > type . o : { n : nat } { f : v n > nat } w n f . ";
@@ -395,6 +411,17 @@ public final class EqualBoundariesTest extends Sentences {
         due("SPENT in F' ahead of DEEP behind", with(DEEP).canon(text), at(9, text.length()));
         text = "[ x : v ( n99 ( s z ) ) ] m ( " + much + " )";
         due("in a type, too", with(DEEP).type(text), at(10, text.length()));
+    }
+
+    private static void constantsByNames() {
+        says("PRINTED: constants by NAMES;");
+        Bench bench = with("a : type . abcdefghijkl : a . Z9 : a > a . ");
+        canons(bench, "abcdefghijkl", "abcdefghijkl");
+        canons(bench, "Z9 abcdefghijkl", "Z9 abcdefghijkl");
+        types(bench, "Z9", "{x0:a}a");
+        bench.forget(1);
+        due("told anew, as an object of another NAME", bench.declare("b : a > a ."), 0);
+        canons(bench, "b abcdefghijkl", "b abcdefghijkl");
     }
 
     private static void howManyTheyStandWithin() {

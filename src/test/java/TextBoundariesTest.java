@@ -10,7 +10,9 @@ public final class TextBoundariesTest extends Sentences {
         blanksWhereOneLikes();
         words();
         allElseIsNone();
+        expressions();
         onePOrMore();
+        parts();
         wordsButType();
         arrowIsBracesWithAVarThatStandsNowhere();
         nearestVar();
@@ -166,6 +168,34 @@ public final class TextBoundariesTest extends Sentences {
         canonFault(NAT, "s [ x : nat ] x", at(1, 2));
         canonFault(NAT, "s { x : nat } x", at(1, 2));
         canons(with(NAT), "( s ) ( ( z ) )", "s z");
+    }
+
+    private static void expressions() {
+        says("E: { VAR : E } E | [ VAR : E ] E | A > E | A.");
+        // What stands behind goes as far as it can.
+        types(with(NAT), "[ f : { x : nat } nat > nat ] f", "{x0:{x0:nat}{x1:nat}nat}{x1:nat}{x2:nat}nat");
+        types(with(NAT), "[ f : nat > { x : nat } nat > nat ] z", "{x0:{x0:nat}{x1:nat}{x2:nat}nat}nat");
+        canons(with(NAT), "[ x : nat ] s x", "[x0:nat]s x0");
+        declares(INDEXED, "a : { n : nat } v n > v n .", 0);
+        declares(INDEXED, "a : ( { n : nat } v n ) > v n .", at(2, 28));
+        declares(INDEXED, "a : v z > v ( s z ) > nat .", 0);
+        canonFault(NAT, "s [ x : nat ] x", at(1, 2));
+        declares(NAT, "a : nat { x : nat } nat .", at(1, 8));
+        declares(NAT, "a : { x : nat nat .", at(1, 18));
+        declares(NAT, "a : { x y : nat } nat .", at(1, 8));
+        declares(NAT, "a : { } nat .", at(1, 6));
+        declares(NAT, "a : nat > > nat .", at(1, 10));
+    }
+
+    private static void parts() {
+        says("P: NAME, type, ( E ).");
+        declares(NAT, "a : ( ( { x : ( nat ) } ( ( nat ) > ( type ) ) ) ) .", 0);
+        canons(with(NAT), "( ( [ x : ( nat ) ] ( s ( x ) ) ) ( z ) )", "s z");
+        canonFault(NAT, "s ( z", at(1, 5));
+        canonFault(NAT, "s z )", at(1, 4));
+        canonFault(NAT, "s ( z ) )", at(1, 8));
+        canonFault(NAT, "s ( z ; z )", at(1, 6));
+        canonFault(NAT, "s ( z . )", at(1, 6));
     }
 
     private static void wordsButType() {
