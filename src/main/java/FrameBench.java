@@ -1187,7 +1187,7 @@ public final class FrameBench {
         }
 
         /** Two families, each told by itself or by an object whose type it is. */
-        private boolean families(int one, int oneScope, int other, int otherScope, int depth) {
+        boolean families(int one, int oneScope, int other, int otherScope, int depth) {
             int left = one;
             int leftScope = oneScope;
             int right = other;

@@ -1,15 +1,9 @@
-/** Each promise of the document, told by texts whose answers were worked out by hand. */
-public final class PromisesTest {
-    private static final String NAT = "nat : type . z : nat . s : nat > nat . ";
-    private static final String PLUS = NAT + "plus : nat > nat > nat > type . pz : { n : nat } plus z n n . "
-            + "ps : { m : nat } { n : nat } { k : nat } plus m n k > plus ( s m ) n ( s k ) . ";
-    private static final String POWERS = NAT + "id : nat > nat = [ x : nat ] x . "
-            + "c2 : ( nat > nat ) > nat > nat = [ f : nat > nat ] [ x : nat ] f ( f x ) . "
-            + "c4 : ( nat > nat ) > nat > nat = [ f : nat > nat ] c2 ( c2 f ) . "
-            + "c16 : ( nat > nat ) > nat > nat = [ f : nat > nat ] c4 ( c4 f ) . "
-            + "c256 : ( nat > nat ) > nat > nat = [ f : nat > nat ] c16 ( c16 f ) . ";
-
-    private static int wrong;
+/**
+ * Each promise of the document, told by texts whose answers were worked out by hand. A test begins
+ * with the heading of its promise, or of the section that it is about.
+ */
+public final class PromisesTest extends Sentences {
+    private static final String POWERS = NAT + Load.SIGNATURE;
 
     public static void main(String[] args) {
         newObject();
@@ -36,54 +30,13 @@ public final class PromisesTest {
         outSigns();
         forgetting();
         counting();
-        System.out.println(wrong == 0 ? "promises: all answers are as due" : wrong + " answers are not as due");
-        if (wrong != 0) System.exit(1);
-    }
-
-    private static void due(String what, int got, int want) {
-        if (got == want) return;
-        wrong++;
-        System.out.println(what + " answered " + got + ", due is " + want);
-    }
-
-    private static void due(String what, String got, String want) {
-        if (got.equals(want)) return;
-        wrong++;
-        System.out.println(what + " is " + got + ", due is " + want);
-    }
-
-    private static int at(int kind, int place) { return kind + 16 * place; }
-
-    private static Bench with(String signature) {
-        Bench bench = new Bench();
-        due("declare " + signature, bench.declare(signature), 0);
-        return bench;
-    }
-
-    /** The fault of a declaration, behind a signature that is well formed. */
-    private static void declares(String signature, String text, int want) {
-        due("declare " + text, with(signature).declare(text), want);
-    }
-
-    private static void canons(Bench bench, String text, String want) {
-        due("canon " + text, bench.canon(text), 0);
-        due("the form of " + text, bench.out(), want);
-    }
-
-    private static void types(Bench bench, String text, String want) {
-        due("type " + text, bench.type(text), 0);
-        due("the type of " + text, bench.out(), want);
-    }
-
-    private static String many(String text, int times) {
-        StringBuilder all = new StringBuilder();
-        for (int i = 0; i < times; i++) all.append(text);
-        return all.toString();
+        end("PromisesTest");
     }
 
     // ---- promise 1
 
     private static void newObject() {
+        says("Promise 1: A new object");
         FrameBench it = new FrameBench();
         for (int what = 0; what < 4; what++) due("new: count " + what, it.count(what), 0);
         due("new: size", it.size(), 0);
@@ -104,6 +57,7 @@ public final class PromisesTest {
     // ---- promise 2
 
     private static void feeding() {
+        says("Promise 2: feed");
         FrameBench it = new FrameBench();
         due("feed nothing", it.feed(0, 0, 0), 0);
         due("the highest byte comes first", it.feed(Bench.eight("z", 0), Bench.eight("a", 0), 0), 2);
@@ -129,6 +83,7 @@ public final class PromisesTest {
     // ---- terms 1, promise 3: tokens and reading
 
     private static void tokens() {
+        says("==== 1. TEXTS.");
         declares("", "abcdefghijkl:type.", 0);
         declares("", "abcdefghijklm:type.", at(1, 0));
         declares("", "a1B2:type.", 0);
@@ -148,6 +103,7 @@ public final class PromisesTest {
     }
 
     private static void reading() {
+        says("Promise 3: declare");
         declares("", "   ", 0);
         declares("", "type : type .", at(1, 0));
         declares("", ": type .", at(1, 0));
@@ -190,6 +146,7 @@ public final class PromisesTest {
     }
 
     private static void limitsOfReading() {
+        says("At most 600 P, { }, [ ] and > in one E");
         Bench bench = with(NAT);
         // 600 P are read (and z takes no P); the 601st is one too many.
         due("600 P", bench.canon("z" + many(" z", 599)), at(8, 2));
@@ -227,6 +184,7 @@ public final class PromisesTest {
     // ---- terms 1 and 2: sorts
 
     private static void sorts() {
+        says("SORTS.");
         declares(PLUS, "a : type .", 0);
         declares(PLUS, "a : nat > { x : nat } plus x x x > type .", 0);
         declares(PLUS, "a : ( ( nat > ( type ) ) ) .", 0);
@@ -267,6 +225,7 @@ public final class PromisesTest {
     // ---- terms 2: faults
 
     private static void families() {
+        says("A family's objects likewise by its KIND, in order.");
         declares(PLUS, "a : plus .", at(4, 4));
         declares(PLUS, "a : plus z z .", at(4, 4));
         declares(PLUS, "a : nat > ( plus z z ) .", at(4, 12));
@@ -285,6 +244,7 @@ public final class PromisesTest {
     }
 
     private static void objects() {
+        says("==== 2. CHECKING");
         Bench bench = with(PLUS);
         due("no such name", bench.canon("what"), at(2, 0));
         due("no such name behind", bench.canon("s ( s what )"), at(2, 6));
@@ -307,6 +267,7 @@ public final class PromisesTest {
     }
 
     private static void definitions() {
+        says("(a FAMILY, an OBJECT of that type: a definition)");
         declares(PLUS, "a : nat = s z .", 0);
         declares(PLUS, "a : nat = s .", at(7, 10));
         declares(PLUS, "a : nat = ( s ) .", at(7, 10));
@@ -324,6 +285,7 @@ public final class PromisesTest {
     }
 
     private static void scopes() {
+        says("A NAME is the VAR of the nearest { }, [ ] about it");
         Bench bench = with(NAT);
         canons(bench, "[ z : nat ] z", "[x0:nat]x0");
         canons(bench, "[ x : nat ] [ x : nat > nat ] x", "[x0:nat][x1:{x1:nat}nat][x2:nat]x1 x2");
@@ -340,42 +302,38 @@ public final class PromisesTest {
 
     // ---- terms 2: steps
 
-    private static void steps(String signature, String text, int want) {
-        Bench bench = with(signature);
-        bench.declare(text);
-        due("the STEPS of declare " + text, bench.it.count(2), want);
-    }
-
     private static void checkingSteps() {
-        steps("", "", 0);
-        steps("", "a : type .", 1);
-        steps("", "a : type . b : a . c : a .", 3);
-        steps(NAT, "a : nat > nat .", 3);
-        steps(NAT, "a : { x : nat } nat .", 3);
-        steps(NAT, "a : ( ( nat ) ) .", 1);
+        says("==== 2. CHECKING takes STEPS");
+        declareSteps("", "", 0);
+        declareSteps("", "a : type .", 1);
+        declareSteps("", "a : type . b : a . c : a .", 3);
+        declareSteps(NAT, "a : nat > nat .", 3);
+        declareSteps(NAT, "a : { x : nat } nat .", 3);
+        declareSteps(NAT, "a : ( ( nat ) ) .", 1);
         // NAME; P, NAME, nat and nat, three times.
-        steps(PLUS, "a : plus z z z .", 10);
+        declareSteps(PLUS, "a : plus z z z .", 10);
         // nat, s, P, z, nat and nat, and once more for the definition.
-        steps(NAT, "a : nat = s z .", 6);
+        declareSteps(NAT, "a : nat = s z .", 6);
         // What is wrong has taken its STEP, and nothing behind it has.
-        steps(NAT, "a : what .", 1);
-        steps(NAT, "a : z .", 1);
-        steps(NAT, "a : nat > z > what .", 4);
-        steps(NAT, "a : { x : type } nat .", 2);
-        steps(NAT, "a : nat z .", 2);
-        steps(NAT, "a : ( nat ) z .", 0);
-        steps(NAT, "a : nat = z z .", 3);
-        steps(NAT, "a : nat = z > z .", 2);
-        steps(NAT, "a : # .", 0);
+        declareSteps(NAT, "a : what .", 1);
+        declareSteps(NAT, "a : z .", 1);
+        declareSteps(NAT, "a : nat > z > what .", 4);
+        declareSteps(NAT, "a : { x : type } nat .", 2);
+        declareSteps(NAT, "a : nat z .", 2);
+        declareSteps(NAT, "a : ( nat ) z .", 0);
+        declareSteps(NAT, "a : nat = z z .", 3);
+        declareSteps(NAT, "a : nat = z > z .", 2);
+        declareSteps(NAT, "a : # .", 0);
         // plus, P, z, nat and nat; then 4.
-        steps(PLUS, "a : plus z .", 4);
+        declareSteps(PLUS, "a : plus z .", 4);
         // nat; s, P, s, { } and nat.
-        steps(NAT, "a : nat = s s .", 5);
+        declareSteps(NAT, "a : nat = s s .", 5);
     }
 
     // ---- promise 4
 
     private static void canonicalForms() {
+        says("Promise 4: canon");
         Bench bench = with(PLUS);
         canons(bench, "z", "z");
         canons(bench, "s ( s z )", "s (s z)");
@@ -406,6 +364,7 @@ public final class PromisesTest {
     }
 
     private static void printedNames() {
+        says("PRINTED: constants by NAMES; VARS by x");
         canons(with(NAT + "x0 : nat . "), "[ y : nat ] x0", "[xx0:nat]x0");
         canons(with(NAT + "x1 : nat . "), "[ y : nat ] [ q : nat ] y", "[xx0:nat][xx1:nat]xx0");
         canons(with(NAT + "x1 : nat . xx0 : nat . "), "[ y : nat ] y", "[xxx0:nat]xxx0");
@@ -423,6 +382,7 @@ public final class PromisesTest {
     // ---- promise 5
 
     private static void types() {
+        says("Promise 5: type");
         Bench bench = with(PLUS);
         types(bench, "z", "nat");
         types(bench, "s", "{x0:nat}nat");
@@ -442,6 +402,7 @@ public final class PromisesTest {
     // ---- promise 6
 
     private static void equality() {
+        says("Promise 6: equal");
         Bench bench = with(PLUS + "one : nat = s z . ");
         due("z ; z", bench.equal("z ; z"), 1);
         due("z ; one", bench.equal("z ; one"), 0);
@@ -462,6 +423,7 @@ public final class PromisesTest {
     }
 
     private static void equalitySteps() {
+        says("==== 3. EQUAL.");
         Bench bench = with(PLUS + "one : nat = s z . ");
         bench.equal("z ; z");
         // z, z; nat and nat; z and z.
@@ -478,6 +440,7 @@ public final class PromisesTest {
     // ---- SPENT, DEEP, too long
 
     private static void spent() {
+        says("one more would be SPENT");
         Bench bench = with(POWERS);
         int before = bench.it.count(1);
         String text = "c256 ( c256 id ) z";
@@ -501,25 +464,19 @@ public final class PromisesTest {
         due("in all 60,000", bench.it.count(1), 60000);
         Bench edge = with(POWERS);
         // A P takes its STEP at its first token: leave 1 STEP for the head alone.
-        drain(edge, 59999);
+        Load.drain(edge, 59999);
+        due("drained", edge.it.count(1), 59999);
         due("SPENT at a P", edge.canon("s ( z )"), at(9, 2));
         due("one STEP", edge.it.count(2), 1);
         Bench last = with(POWERS);
-        drain(last, 59998);
+        Load.drain(last, 59998);
+        due("drained", last.it.count(1), 59998);
         due("the last two", last.canon("z"), 0);
         due("none is left", last.canon("z"), at(9, 0));
     }
 
-    /** Takes STEPS until there are so many in all. */
-    private static void drain(Bench bench, int until) {
-        while (bench.it.count(1) < until) {
-            int left = until - bench.it.count(1);
-            bench.canon(left > 20000 ? "c256 ( c256 id ) z" : left > 500 ? "c16 id z" : "what");
-        }
-        due("drained", bench.it.count(1), until);
-    }
-
     private static void deep() {
+        says("the 101st: DEEP");
         Bench bench = with(POWERS + "c3 : ( nat > nat ) > nat > nat = [ f : nat > nat ] [ x : nat ] f ( c2 f x ) . "
                 + "c99 : nat = c16 ( c4 s ) ( c16 ( c2 s ) ( c3 s z ) ) . ");
         due("99 s are 100 questions", bench.canon("c99"), 0);
@@ -557,6 +514,7 @@ public final class PromisesTest {
     }
 
     private static void tooLong() {
+        says("11 there: it has more than 2,000 signs");
         Bench bench = with("w : type . a : w . p : w > w > w . v : w > type . m : { x : w } v x . "
                 + "qqqqqqqqqqqq : w > w . tttttttt : w > w . rrrrrrrrr : w > w . ssssssssss : w > w . "
                 + "b : w = p a a . c : w = p b b . d : w = p c c . e : w = p d d . f : w = p e e . g : w = p f f . "
@@ -595,6 +553,7 @@ public final class PromisesTest {
     // ---- promises 7 to 12
 
     private static void naming() {
+        says("Promise 7: named");
         Bench bench = with(NAT + "abcdefghijkl : nat . ab : nat = z . ");
         due("nat", bench.named("nat"), 0);
         due("blanks about it", bench.named(" \n s \n "), 2);
@@ -613,6 +572,7 @@ public final class PromisesTest {
     }
 
     private static void constants() {
+        says("Promise 8: constant");
         Bench bench = with(PLUS + "two : nat = s ( s z ) . f : { x : nat } ( nat > nat ) > nat = [ x : nat ] [ g : nat > nat ] g x . ");
         int[][] want = {{0, 0}, {1, 0}, {1, 1}, {0, 3}, {1, 1}, {1, 4}, {2, 0}, {2, 2}};
         for (int k = 0; k < want.length; k++) {
@@ -631,9 +591,11 @@ public final class PromisesTest {
     }
 
     private static void outSigns() {
+        says("Promise 9: size");
         Bench bench = with(NAT);
         canons(bench, "s ( s z )", "s (s z)");
         due("size", bench.it.size(), 7);
+        says("Promise 10: out");
         due("out 0", bench.it.out(0), 's');
         due("out 1", bench.it.out(1), ' ');
         due("out 6", bench.it.out(6), ')');
@@ -651,6 +613,7 @@ public final class PromisesTest {
     }
 
     private static void forgetting() {
+        says("Promise 11: forget");
         Bench bench = with(NAT + "one : nat = s z . ");
         due("forget -1", bench.forget(-1), -1);
         due("forget 5", bench.forget(5), -1);
@@ -674,6 +637,7 @@ public final class PromisesTest {
     }
 
     private static void counting() {
+        says("Promise 12: count");
         Bench bench = with(NAT);
         due("constants", bench.it.count(0), 3);
         due("STEPS in all", bench.it.count(1), 5);
